@@ -112,6 +112,16 @@ final class PlainClips {
     private int faultPlace = NONE;
     int status;
 
+    /** How many CLIPS there are, asked without a call. */
+    int size() {
+        return clips.size();
+    }
+
+    /** How long it LASTS, asked without a call. */
+    int length() {
+        return (int) lasts();
+    }
+
     int call(String name, int[] a) {
         if (name.equals("feed")) {
             return feed(a);

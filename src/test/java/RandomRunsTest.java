@@ -7,12 +7,15 @@ import java.util.Random;
 public final class RandomRunsTest {
     private static final int RUNS = Integer.getInteger("runs", 150);
     private static final int CALLS = 300;
+    /** How many calls ahead of a wrong answer are told. */
+    private static final int SHOWN = 60;
     private static final String[] ASKED = {"many", "clip", "within", "begin", "pressed", "state", "local", "pass",
         "playing", "known", "strength", "share", "dark", "top", "seen", "brightest", "hidden", "pieces", "piece",
         "reach", "spans", "span", "ticks", "both", "when", "frames", "next", "most", "gaps", "fit", "slack",
         "seek", "play", "event", "fault"};
     private static final String[] ACTS = {"add", "add", "lose", "move", "mark", "mark", "mark", "mark", "start",
         "start", "start", "press", "press", "unpress", "undo"};
+    private static final int[] MOST_MARK = {14, 4, 4, 9, 1, 1, 3, 6, 6};
 
     private final Random random;
     private final NestedClips x = new NestedClips();
@@ -37,12 +40,12 @@ public final class RandomRunsTest {
 
     private boolean go() {
         boolean alike = true;
-        boolean byText = random.nextInt(3) > 0;
+        boolean byText = random.nextInt(4) > 0;
         for (int i = 0; i < CALLS && alike; i++) {
             int chance = random.nextInt(100);
-            if (byText && (i == 0 || chance < 2)) {
-                alike = loadText();
-            } else if (chance < (i < 40 ? 70 : 20)) {
+            if (byText && (i == 0 || chance < 3)) {
+                alike = loadText() && pressSome() && sweep();
+            } else if (chance < (byText ? 12 : i < 40 ? 75 : 20)) {
                 alike = one(ACTS[random.nextInt(ACTS.length)]);
             } else {
                 alike = one(ASKED[random.nextInt(ASKED.length)]);
@@ -62,7 +65,9 @@ public final class RandomRunsTest {
         if (got != due || x.status() != plain.status) {
             System.out.println("answered " + got + " (" + x.status() + ") where " + due + " (" + plain.status
                     + ") is due:");
-            calls.forEach(call -> System.out.println("  " + call));
+            for (int i = Math.max(0, calls.size() - SHOWN); i < calls.size(); i++) {
+                System.out.println("  " + calls.get(i));
+            }
             return false;
         }
         return true;
@@ -79,8 +84,30 @@ public final class RandomRunsTest {
                 && same("fault", new int[] {1});
     }
 
+    private boolean pressSome() {
+        boolean alike = true;
+        for (int i = random.nextInt(5); i > 0 && alike; i--) {
+            alike = same("press", new int[] {random.nextInt(2), random.nextInt(plain.length() + 2)});
+        }
+        return alike;
+    }
+
+    /** Every CLIP at every TIME, a little beyond the end of the SHOW. */
+    private boolean sweep() {
+        String[] names = {"state", "local", "pass", "known", "strength", "share"};
+        int last = Math.min(1999, Math.min(400, plain.length() + 5));
+        boolean alike = true;
+        for (int clip = 0; clip < plain.size() && alike; clip++) {
+            for (int time = 0; time <= last && alike; time++) {
+                String name = names[(clip + time) % 2 == 0 ? 0 : random.nextInt(names.length)];
+                alike = same(name, new int[] {clip, time});
+            }
+        }
+        return alike;
+    }
+
     private int clip() {
-        return random.nextInt(25) == 0 ? random.nextInt(16) - 2 : random.nextInt(Math.max(1, x.many(0)));
+        return random.nextInt(25) == 0 ? random.nextInt(16) - 2 : random.nextInt(Math.max(1, plain.size()));
     }
 
     private int below(int bound) {
@@ -92,7 +119,7 @@ public final class RandomRunsTest {
         if (kind == 0) {
             return random.nextInt(2010) - 5;
         }
-        return random.nextInt(Math.min(1999, x.many(4) + 8) + 1);
+        return random.nextInt(Math.min(1999, plain.length() + 8) + 1);
     }
 
     private int much() {
@@ -101,16 +128,15 @@ public final class RandomRunsTest {
     }
 
     private int markNumber(int what) {
-        int[] most = {14, 4, 4, 9, 1, 1, 3, 6, 6};
         if (what < 0 || what > 8 || random.nextInt(20) == 0) {
             return much();
         }
-        return (what == 1 || what == 2 ? 1 : 0) + random.nextInt(most[what] + 1);
+        return (what == 1 || what == 2 ? 1 : 0) + random.nextInt(MOST_MARK[what] + 1);
     }
 
     private int[] arguments(String name) {
         switch (name) {
-            case "add": return new int[] {below(3), x.many(0) == 0 && random.nextInt(5) > 0 ? -1 : clip()};
+            case "add": return new int[] {below(3), plain.size() == 0 && random.nextInt(5) > 0 ? -1 : clip()};
             case "move": case "within": return new int[] {clip(), below(5)};
             case "mark": {
                 int what = below(9);
@@ -118,9 +144,9 @@ public final class RandomRunsTest {
             }
             case "start": {
                 int how = below(4);
-                return new int[] {clip(), how, clip(), how == 3 ? below(4) : much()};
+                return new int[] {clip(), how, clip(), how == 3 ? below(5) / 2 : much()};
             }
-            case "press": return new int[] {below(4), time()};
+            case "press": return new int[] {random.nextInt(3) > 0 ? random.nextInt(2) : below(5), time()};
             case "unpress": return new int[] {below(5)};
             case "many": return new int[] {below(11)};
             case "clip": return new int[] {clip(), below(20)};

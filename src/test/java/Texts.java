@@ -15,12 +15,12 @@ final class Texts {
 
     Texts(Random random) {
         this.random = random;
-        most = random.nextInt(8) == 0 ? 14 : 2 + random.nextInt(11);
+        most = random.nextInt(15) == 0 ? 14 : 3 + random.nextInt(10);
     }
 
     String show() {
         addClip(0, 0, false);
-        if (random.nextInt(3) == 0) {
+        if (random.nextInt(5) == 0) {
             spoil();
         }
         StringBuilder text = new StringBuilder();
@@ -71,13 +71,18 @@ final class Texts {
     }
 
     private void mark(String word, int least, int most) {
-        if (random.nextInt(5) == 0) {
-            put(word, String.valueOf(least + random.nextInt(most - least + 1)));
+        if (random.nextInt(5) > 0) {
+            return;
+        }
+        boolean wild = random.nextInt(200) == 0;
+        put(word, String.valueOf(wild ? random.nextInt(1010) : least + random.nextInt(most - least + 1)));
+        if (random.nextInt(400) == 0) {
+            put(word, "1");
         }
     }
 
     private void addMarks(boolean inPar, int firstSibling) {
-        mark("dur", 1, 14);
+        mark("dur", 1, 25);
         mark("rate", 1, 4);
         mark("times", 1, 4);
         mark("cut", 1, 12);
@@ -90,23 +95,27 @@ final class Texts {
         if (random.nextInt(4) == 0) {
             put("hold");
         }
-        int how = random.nextInt(inPar ? 6 : 2);
-        String number = String.valueOf(random.nextInt(7));
+        int how = random.nextInt(inPar || random.nextInt(300) == 0 ? 7 : 2);
+        String number = String.valueOf(random.nextInt(200) == 0 ? random.nextInt(1010) : random.nextInt(7));
         if (how == 1) {
             put("at", number);
-        } else if (how == 2) {
-            put("press", String.valueOf(random.nextInt(4)));
+        } else if (how == 2 || how == 5) {
+            put("press", String.valueOf(random.nextInt(random.nextInt(50) == 0 ? 6 : 2)));
         } else if (how == 3 || how == 4) {
             // A sibling most of the time: the first one within the same, or the one that comes next.
-            int other = random.nextInt(12) == 0 ? random.nextInt(12) : random.nextInt(4) == 0 ? clips : firstSibling;
+            int other = random.nextInt(40) == 0 ? random.nextInt(12) : random.nextInt(4) == 0 && clips < most ? clips : firstSibling;
             put(how == 3 ? "with" : "behind", name(other), number);
         }
+    }
+
+    private int anyInner() {
+        return random.nextInt(3) == 0 ? 2 : 1;
     }
 
     private void addClip(int depth, int firstSibling, boolean inPar) {
         int number = clips;
         clips++;
-        int kind = depth >= 4 && random.nextInt(30) > 0 ? 0 : depth == 0 ? 1 + random.nextInt(2) : random.nextInt(3);
+        int kind = depth >= 4 && random.nextInt(30) > 0 ? 0 : depth == 0 ? anyInner() : random.nextInt(2) * anyInner();
         put(kind == 0 ? "leaf" : kind == 1 ? "par" : "seq", name(number));
         boolean first = number == firstSibling;
         addMarks(inPar && (!first || random.nextInt(3) == 0), firstSibling);
@@ -116,7 +125,8 @@ final class Texts {
         }
         put("(");
         int inner = clips;
-        while (clips < most && random.nextInt(4) > 0 && depth < 6) {
+        boolean empty = random.nextInt(15) == 0;
+        while (!empty && clips < most && (clips == inner || random.nextInt(4) > 0) && depth < 6) {
             addClip(depth + 1, inner, kind == 1);
         }
         put(")");
