@@ -89,7 +89,7 @@ public final class NestedClips {
         status = 0;
         fault = NONE;
         faultPlace = NONE;
-        refresh();
+        stage.prepare();
     }
 
     public int status() {
@@ -250,7 +250,7 @@ public final class NestedClips {
             return refuse(THERE_IS_NONE);
         }
         past.bringBack(show);
-        refresh();
+        stage.prepare();
         return give(past.many);
     }
 
@@ -663,13 +663,8 @@ public final class NestedClips {
         }
         past.keep(show);
         show.copyFrom(draft);
-        refresh();
-        return give(answer);
-    }
-
-    private void refresh() {
-        layout.measure(show);
         stage.prepare();
+        return give(answer);
     }
 
     private int draftLasts() {
@@ -1072,6 +1067,7 @@ public final class NestedClips {
         final int[] local = new int[MOST_CLIPS];
         final int[] pass = new int[MOST_CLIPS];
         final int[] begin = new int[MOST_CLIPS];
+        final int[] sinceBegin = new int[MOST_CLIPS];
         final int[] strength = new int[MOST_CLIPS];
         final int[] share = new int[MOST_CLIPS];
 
@@ -1080,7 +1076,7 @@ public final class NestedClips {
             local[clip] = NONE;
             pass[clip] = NONE;
             begin[clip] = NONE;
-            strength[clip] = 0;
+            sinceBegin[clip] = 0;
             share[clip] = 0;
         }
 
@@ -1145,8 +1141,9 @@ public final class NestedClips {
             }
         }
 
-        /** To be called when the SHOW has changed and its layout is measured. */
+        /** To be called whenever the SHOW has changed. */
         void prepare() {
+            layout.measure(show);
             now.time = NONE;
             standLeaves();
             sortPresses();
@@ -1212,6 +1209,7 @@ public final class NestedClips {
             for (int clip = 0; clip < show.clips; clip++) {
                 moment.clear(clip);
                 fillClip(moment, clip);
+                moment.strength[clip] = moment.runs(clip) ? strengthOf(moment, clip) : 0;
             }
             shareLight(moment);
         }
@@ -1246,11 +1244,12 @@ public final class NestedClips {
             int left = (int) (gone % simple);
             moment.pass[clip] = (int) (gone / simple);
             moment.local[clip] = show.markOf(clip, BACK) == 1 ? simple - 1 - left : left;
-            moment.strength[clip] = strengthOf(moment, clip, sinceBegin);
+            moment.sinceBegin[clip] = sinceBegin;
         }
 
-        private int strengthOf(Moment moment, int clip, int sinceBegin) {
+        private int strengthOf(Moment moment, int clip) {
             int around = show.around[clip];
+            int sinceBegin = moment.sinceBegin[clip];
             long in = (sinceBegin + 1L) * WHOLE / (show.markOf(clip, IN) + 1);
             long out = ((long) layout.active[clip] - sinceBegin) * WHOLE / (show.markOf(clip, OUT) + 1);
             int own = (int) Math.min(WHOLE, Math.min(in, out));
@@ -1529,7 +1528,9 @@ public final class NestedClips {
         private final long[] startNames = new long[MOST_CLIPS];
         /** The CLIP right within which the next one would be. */
         private int open;
-        /** The MARKS that the CLIP has, as bits; all ways to start are one. */
+        /** The CLIP whose MARKS are read, up to the sign behind them. */
+        private int marked;
+        /** The MARKS that it has, as bits; all ways to start are one. */
         private int told;
         int fault;
         int place;
@@ -1544,14 +1545,19 @@ public final class NestedClips {
             length = n;
             behind = 0;
             open = NONE;
+            marked = NONE;
             fault = 0;
             place = NONE;
             draft.empty();
             takeToken();
             boolean going = readClip();
             // Each round takes a TOKEN at least, and none is shorter than a byte.
-            for (int round = 0; round <= n && going && open != NONE; round++) {
-                going = isSign(')') ? closeClip() : readClip();
+            for (int round = 0; round <= n && going && (marked != NONE || open != NONE); round++) {
+                if (marked != NONE) {
+                    going = type == WORD ? readMark(marked) : readSign(marked);
+                } else {
+                    going = isSign(')') ? closeClip() : readClip();
+                }
             }
             if (going) {
                 readEnd();
@@ -1579,7 +1585,7 @@ public final class NestedClips {
             }
             int clip = draft.append(kind, open);
             takeToken();
-            return readName(clip) && readMarks(clip) && readSign(clip);
+            return readName(clip);
         }
 
         private boolean readName(int clip) {
@@ -1593,17 +1599,10 @@ public final class NestedClips {
             }
             names[clip] = said;
             startNames[clip] = 0;
+            marked = clip;
+            told = 0;
             takeToken();
             return true;
-        }
-
-        private boolean readMarks(int clip) {
-            told = 0;
-            boolean going = true;
-            for (int round = 0; round <= length && going && type == WORD; round++) {
-                going = readMark(clip);
-            }
-            return going;
         }
 
         private boolean readSign(int clip) {
@@ -1614,6 +1613,7 @@ public final class NestedClips {
             if (!isLeaf) {
                 open = clip;
             }
+            marked = NONE;
             takeToken();
             return true;
         }

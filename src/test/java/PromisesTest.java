@@ -66,6 +66,7 @@ public final class PromisesTest {
         fit();
         slack();
         seekPlayEvent();
+        lastTime();
         System.out.println(wrong == 0 ? checks + " answers are as due" : wrong + " answers are not as due");
         System.exit(wrong == 0 ? 0 : 1);
     }
@@ -190,6 +191,14 @@ public final class PromisesTest {
         is(new NestedClips().fault(1), NONE);
     }
 
+    private static void partOf(String text, int n, int kind, int place) {
+        NestedClips x = new NestedClips();
+        x.feed(Calls.fed(text, 0)[0], Calls.fed(text, 0)[1], Calls.fed(text, 0)[2], Calls.fed(text, 0)[3], 0);
+        is(x.load(n), kind == 0 ? 1 : NONE);
+        is(x.fault(0), kind);
+        is(x.fault(1), place);
+    }
+
     private static void textFaults() {
         promise = 4;
         faulty("", 2, 0);
@@ -294,6 +303,16 @@ public final class PromisesTest {
         is(x.clip(5, 11), 3);
         is(x.clip(5, 2), 3);
         is(told("par a(par b(par c(par d(leaf e;seq f()))))").many(0), 6);
+        is(told("par b(leaf bb;leaf bbb;leaf a;leaf aa;leaf aaa;leaf aaaaaaaa;leaf bbbbbbbb;leaf zzzzzzzz;)").many(0), 9);
+        is(told("par p(leaf ab with b 1;leaf b;)").clip(1, 11), 2);
+        // Only the first n bytes count, whatever stands behind them.
+        partOf("leaf a;leaf b;", 7, 0, NONE);
+        partOf("leaf a ;   x", 10, 0, NONE);
+        partOf("leaf abc;", 6, 2, 6);
+        partOf("leaf a dur 55;", 12, 2, 12);
+        partOf("leaf a dur 55555;", 13, 2, 13);
+        partOf("leaf a dur 5  ;", 13, 2, 13);
+        partOf("leaf a dur 5;", 11, 2, 11);
         is(told("seq a(leaf b;leaf c;leaf d;leaf e;leaf f;leaf g;leaf h;leaf i;leaf j;leaf k;leaf l;)").many(4), 110);
     }
 
@@ -1189,6 +1208,67 @@ public final class PromisesTest {
         no(x, x.slack(1), 8);
         x = told("seq a (leaf b dur 999; leaf c dur 990;)");
         is(x.slack(2), 0);
+        // b ends with the PAR at 998, so it would LAST longer with 989 and not before; with dur 999 never.
+        x = told("par a (leaf b; leaf c dur 998;)");
+        is(x.slack(1), 988);
+        x.start(1, AT, 0, 500);
+        is(x.slack(1), 488);
+        x = told("par a (leaf b dur 1; leaf c dur 999;)");
+        is(x.slack(1), 998);
+        x = told("par a (leaf b dur 1; leaf c dur 999 at 1;)");
+        no(x, x.slack(1), 8);
+    }
+
+    /** At 1,999, the last TIME, a LEAF begins by a PRESS; c and its PAR PLAY in a ROOT that is long FROZEN. */
+    private static void lastTime() {
+        NestedClips x = told("par a dur 1 hold (par b dur 1 (leaf c dur 1; leaf d dur 1 layer 3 press 0;))");
+        is(x.press(0, 1999), 1);
+        promise = 19;
+        is(x.state(3, 1998), 1);
+        is(x.state(3, 1999), 2);
+        promise = 28;
+        is(x.seen(2), 1999);
+        is(x.seen(3), 1);
+        promise = 29;
+        is(x.brightest(3), 1999);
+        promise = 30;
+        is(x.hidden(), 0);
+        promise = 31;
+        is(x.pieces(3), 1);
+        promise = 32;
+        is(x.piece(3, 0, 0), 1999);
+        is(x.piece(2, 0, 1), 1999);
+        promise = 35;
+        is(x.span(3, 0, 1), 1999);
+        promise = 36;
+        is(x.ticks(3), 1);
+        is(x.ticks(2), 2000);
+        promise = 37;
+        is(x.both(2, 3), 1);
+        promise = 38;
+        is(x.when(3, 0, 0), 1999);
+        is(x.when(2, 0, 1999), 1999);
+        promise = 39;
+        is(x.frames(3), 1);
+        promise = 41;
+        is(x.most(0), 2);
+        is(x.most(1), 1999);
+        promise = 14;
+        is(x.many(7), 2);
+        promise = 40;
+        is(x.next(1), 1999);
+        is(x.next(1998), 1999);
+        promise = 46;
+        x.seek(1998);
+        is(x.play(1), 1);
+        is(x.event(0, 1), 1999);
+        x = told("seq a at 999 (leaf b dur 500; leaf c dur 500;)");
+        is(x.seek(1998), 1 | 4);
+        is(x.play(1), 2);
+        promise = 42;
+        is(x.gaps(), 999);
+        promise = 40;
+        is(x.next(1998), 1999);
     }
 
     private static void seekPlayEvent() {
