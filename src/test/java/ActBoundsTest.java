@@ -48,6 +48,7 @@ public final class ActBoundsTest {
         pressUnlike();
         unpressNumbers();
         undoEight();
+        undoAndGoOn();
         undoEachAct();
         undoLeavesTheHead();
         refusedIsNoAct();
@@ -686,6 +687,31 @@ public final class ActBoundsTest {
         }
     }
 
+    private static void undoAndGoOn() {
+        Due.of("the latest 8 can be undone: also those behind some that were");
+        NestedClips x = new NestedClips();
+        x.add(LEAF, NONE);
+        for (int dur = 1; dur <= 11; dur++) {
+            x.mark(0, DUR, dur);
+        }
+        for (int left = 7; left >= 5; left--) {
+            Due.yes(x, x.undo(), left);
+        }
+        Due.is(x.clip(0, 4), 8);
+        for (int dur = 101; dur <= 106; dur++) {
+            Due.is(x.mark(0, DUR, dur), dur == 101 ? 8 : dur - 1);
+            Due.is(x.many(3), Math.min(8, dur - 101 + 6));
+        }
+        // Ahead of the latest eight: 6, 7, 8, then 101 and on; what was undone is not among them.
+        int[] due = {105, 104, 103, 102, 101, 8, 7, 6};
+        for (int i = 0; i < 8; i++) {
+            Due.yes(x, x.undo(), 7 - i);
+            Due.is(x.clip(0, 4), due[i]);
+        }
+        Due.no(x, x.undo(), 8);
+        Due.is(x.clip(0, 4), 6);
+    }
+
     private static int[] seen(NestedClips x) {
         int[] all = new int[12 * 19 + 6];
         for (int i = 0; i < 12 * 19; i++) {
@@ -810,6 +836,13 @@ public final class ActBoundsTest {
         Due.is(x.lose(1), 2);
         Due.is(x.hidden(), 0);
         Due.is(x.top(0), 1);
+        // The one that goes stood last of all, with the greatest SHARE.
+        x = Due.told("par a dur 3 (leaf b in 20 layer 5; leaf c;)");
+        Due.is(x.top(0), 2);
+        Due.is(x.share(2, 0), 96);
+        Due.is(x.lose(2), 2);
+        Due.is(x.top(0), 1);
+        Due.is(x.dark(0), 96);
     }
 
     private static NestedClips small() {

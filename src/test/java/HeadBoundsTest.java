@@ -188,16 +188,15 @@ public final class HeadBoundsTest {
         event(x, 12, 1, 6, 3, NONE);
     }
 
-    /** A LEAF that begins 1 later, has so many EVENTS of another PASS, and more if it is to end. */
+    /** A PLAY up to the TIME at which it has so many EVENTS, or one more. */
     private static NestedClips withEvents(int many) {
-        // par b: each TIME one PASS more, 9 in all; the ROOT begins it anew up to 9 times: an EVENT at each TIME but some.
         NestedClips x = Due.told("par a at 1 dur 8 times 9 (leaf b dur 1 times 8;)");
-        // At 1 two EVENTS; then one at each TIME, but two at 9, 17, .. where both have another PASS.
+        // At 1 both begin; then b has another PASS at each TIME, and a has one at 9, 17 and so on.
         int time = 0;
         int events = 0;
         while (events < many && time < 72) {
             time++;
-            events += time == 1 || time % 8 == 1 ? 2 : 1;
+            events += time % 8 == 1 ? 2 : 1;
         }
         Due.yes(x, x.play(time), events);
         return x;
