@@ -87,8 +87,8 @@ final class Due {
     }
 
     /**
-     * A call on an object that is made so gives NONE with this STATUS and changes nothing else: every question
-     * that can be asked is answered as it is on another object, made alike, without the call.
+     * A call on an object that is made so gives NONE with this STATUS and changes nothing else: a row of
+     * questions about all that an object holds is answered as on another object, made alike, without the call.
      */
     static void refused(Supplier<NestedClips> made, int why, ToIntFunction<NestedClips> call) {
         NestedClips x = made.get();
